@@ -556,12 +556,13 @@ public final class ReachedHeap {
                 part = NO_SEARCH;
                 return;
             }
-            if (colourOf(number) == WHITE) {
+            int one = bit(number);
+            if ((whiteOnes(graph) & one) != 0) {
                 graph.letGo(number);
-                goneNow |= bit(number);
+                goneNow |= one;
                 goneEver++;
             } else {
-                blackOnes &= ~bit(number);
+                blackOnes &= ~one;
             }
             sweepFrom = number + 1;
         }

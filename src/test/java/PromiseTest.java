@@ -136,6 +136,20 @@ public final class PromiseTest {
         due("refers(0, 0)", x.refers(0, 0), 23);
 
         x = chain();
+        x.want(0);
+        x.field(0, 0, 0);
+        x.root(0, -1);
+        x.finish(x.all() > 0 ? -1 : 0);
+        x.all();
+        due("all are let go", x.objects(0), 0);
+        x.make(1);
+        x.make(1);
+        for (int what = 1; what <= 4; what++) {
+            due("nothing stays of the last 0", x.objectOf(0, what), what == 4 ? 0 : -1);
+            due("nothing stays of the last 1", x.objectOf(1, what), what == 4 ? 0 : -1);
+        }
+
+        x = chain();
         x.begin();
         due("make(1) in marking", x.make(1), 3);
         due("its colour", x.objectOf(3, 0), 2);
@@ -441,6 +455,25 @@ public final class PromiseTest {
         due("objects(0)", x.objects(0), 3);
         x.all();
         due("objects(0)", x.objects(0), 1);
+
+        // a list as long as there are objects
+        x = new ReachedHeap();
+        for (int number = 0; number < 24; number++) {
+            x.make(0);
+            x.want(number);
+        }
+        x.root(0, -1);
+        due("all() finds 24", x.all(), 24 + 24 + 24 + 3);
+        due("count(6)", x.count(6), 24);
+        due("objectOf(23, 6)", x.objectOf(23, 6), 23);
+        due("begin()", x.begin(), 24);
+        due("grey(23)", x.grey(23), 23);
+        due("grey(24)", x.grey(24), MISSING);
+        due("step(24)", x.step(24), 0);
+        due("objects(5)", x.objects(5), 0xFFFFFF);
+        due("finish(-1)", x.finish(-1), 0);
+        due("finish(3)", x.finish(3), 1);
+        due("objectOf(23, 6)", x.objectOf(23, 6), 21);
 
         // care 2 shades what the root referred to
         x = heap("n0;n1;n2;f0,0,2;r2,-;");
