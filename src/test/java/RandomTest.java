@@ -1,10 +1,13 @@
 /**
- * Long runs of calls, each answer held against PlainHeap, and all that can be asked after them.
- * The runs are the same each time: a plain row of numbers stands in for chance.
+ * Runs of at most 512 calls, each answer held against PlainHeap: long ones with a question here and there, and
+ * shorter ones behind which all is asked. The runs are the same each time: a plain row of numbers stands in for chance.
  */
 public final class RandomTest {
-    private static final int RUNS = 600;
-    private static final int CALLS = 512;
+    private static final int RUNS = 6000;
+    private static final int MOST_CALLS = 512;
+    // The longest piece of a text, or a change and the questions behind it.
+    private static final int CALLS_AT_ONCE = 10;
+    private static final int QUESTIONS = 400;
     private static final String[] PIECES = {
         "n0;", "n1;", "n2;", "n3;", "b;", "s1;", "s05;", "s099;", "r0,-;", "r3,1;", "f0,0,1;", "f1,2,-;", "f2,1,0;",
         "n4;", "s0;", "s100;", "r1,24;", "f0,3,1;", ";", "n;", "n0000;", "r0,--;", "f0,1;", "b", "x;", "b ;", "f-,1,1;"};
@@ -12,6 +15,7 @@ public final class RandomTest {
     private long seed;
     private ReachedHeap real;
     private PlainHeap plain;
+    private int calls;
     private int wrong;
 
     public static void main(String[] args) {
@@ -51,7 +55,7 @@ public final class RandomTest {
 
     /** Mostly an object that is there, so that writes are done and not only refused. */
     private int someObject(boolean orNone) {
-        int present = real.objects(below(6) == 0 ? 0 : 2);
+        int present = plain.objects(below(6) == 0 ? 0 : 2);
         if (below(12) == 0 || present == 0) {
             return near(orNone ? -1 : 0, 23);
         }
@@ -71,15 +75,23 @@ public final class RandomTest {
         real = new ReachedHeap();
         plain = new PlainHeap();
         int style = run % 6;
-        for (int call = 0; call < CALLS && wrong == 0; call++) {
-            oneCall(run, call, style);
-            if (below(5) == 0 || call == CALLS - 1) {
-                lookAtAll(run, call);
-            }
+        boolean isLong = run % 2 == 0;
+        int most = isLong ? MOST_CALLS : 20 + below(MOST_CALLS - QUESTIONS - 20);
+        while (calls <= most - CALLS_AT_ONCE && wrong == 0) {
+            oneCall(run, calls, style / 2);
+            lookAtSome(run, isLong ? below(4) : 0);
+        }
+        if (!isLong) {
+            lookAtAll(run, calls);
+        }
+        if (calls > MOST_CALLS) {
+            wrong++;
+            System.out.println("run " + run + ": more calls than an object is made for");
         }
     }
 
     private void due(int run, int call, String name, int got, int want) {
+        calls++;
         if (got != want) {
             wrong++;
             System.out.println("run " + run + " call " + call + ": " + name + " answered " + got + ", due is " + want);
@@ -153,6 +165,37 @@ public final class RandomTest {
                 for (int i = 0; i < piece.length(); i++) {
                     due(run, call, "type " + piece, real.type(piece.charAt(i)), plain.type(piece.charAt(i)));
                 }
+                break;
+        }
+    }
+
+    private void lookAtSome(int run, int questions) {
+        for (int question = 0; question < questions; question++) {
+            lookAtOne(run, calls);
+        }
+    }
+
+    private void lookAtOne(int run, int call) {
+        int a = someObject(false);
+        int what = near(0, 12);
+        switch (below(11)) {
+            case 0: due(run, call, "count " + what, real.count(what), plain.count(what)); break;
+            case 1: due(run, call, "objects " + what, real.objects(what), plain.objects(what)); break;
+            case 2:
+            case 3: due(run, call, "objectOf " + a + " " + what, real.objectOf(a, what), plain.objectOf(a, what)); break;
+            case 4: due(run, call, "grey " + what, real.grey(what), plain.grey(what)); break;
+            case 5: due(run, call, "far " + a, real.far(a), plain.far(a)); break;
+            case 6: due(run, call, "hangs " + a, real.hangs(a), plain.hangs(a)); break;
+            case 7: due(run, call, "wouldGo", real.wouldGo(), plain.wouldGo()); break;
+            case 8: due(run, call, "late", real.late(), plain.late()); break;
+            case 9:
+                int kind = near(0, 1);
+                int number = near(0, 3);
+                due(run, call, "refers " + kind + " " + number, real.refers(kind, number), plain.refers(kind, number));
+                break;
+            default:
+                int part = near(0, 2);
+                due(run, call, "fault " + part, real.fault(part), plain.fault(part));
                 break;
         }
     }
