@@ -265,12 +265,14 @@ public final class RefusalTest {
             TESTS.due("set(2)", x.set(2), 1);
         });
         TESTS.test("want() twice is not possible", () -> {
-            ReachedHeap x = new ReachedHeap();
-            x.make(0);
-            TESTS.due("want(0)", x.want(0), 1);
-            String before = Stage.look(x);
-            TESTS.due("want(0)", x.want(0), IMPOSSIBLE);
-            TESTS.due("it changes nothing", before.equals(Stage.look(x)) ? 1 : 0, 1);
+            ReachedHeap once = new ReachedHeap();
+            ReachedHeap twice = new ReachedHeap();
+            once.make(0);
+            twice.make(0);
+            TESTS.due("want(0)", once.want(0), 1);
+            TESTS.due("want(0)", twice.want(0), 1);
+            TESTS.due("want(0)", twice.want(0), IMPOSSIBLE);
+            TESTS.due("it changes nothing", Stage.look(once).equals(Stage.look(twice)) ? 1 : 0, 1);
         });
     }
 
@@ -297,11 +299,12 @@ public final class RefusalTest {
         refusedIn("play() with a call that is refused", x -> x.play(), IMPOSSIBLE, Stage.MARKING, Stage.FINISHING,
             Stage.SWEEPING, Stage.MARKING_CARE_2, Stage.FULL_OF_OBJECTS);
         TESTS.test("none of the commands ahead of the fault is done", () -> {
-            ReachedHeap x = new ReachedHeap();
-            Stage.write(x, "n0;n1;b;s99;x;");
-            String before = Stage.look(x);
-            TESTS.due("play()", x.play(), IMPOSSIBLE);
-            TESTS.due("play() changes nothing", before.equals(Stage.look(x)) ? 1 : 0, 1);
+            ReachedHeap written = new ReachedHeap();
+            ReachedHeap played = new ReachedHeap();
+            Stage.write(written, "n0;n1;b;s99;x;");
+            Stage.write(played, "n0;n1;b;s99;x;");
+            TESTS.due("play()", played.play(), IMPOSSIBLE);
+            TESTS.due("play() changes nothing", Stage.look(written).equals(Stage.look(played)) ? 1 : 0, 1);
         });
         TESTS.test("the first fault is told, though a later one is of form", () -> {
             ReachedHeap x = new ReachedHeap();
